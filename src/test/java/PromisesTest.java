@@ -699,13 +699,13 @@ public final class PromisesTest {
     private static void promise21Digest() {
         HomeNeedles x = withPage("n~");
         due("21 without a sea", x.digest(), with(1091, 110, 126, 0, 0, 0, 0, 0, 0, 0, 2, 0));
-        HomeNeedles y = withSea("n22,s22;2055");
+        HomeNeedles y = withSea("n22,s50;2055");
         write(y, "s");
         y.step(2);
         y.see(0, 0, 8);
-        // He is at (1, 1); the shy one leads to the corner.
+        // He is at (1, 1); the shy one leads one step northeast, and then off the sea.
         long h = with(1091, 0, 14, 8, 1, 14, 1, 25, 7, 8, 4, 0);
-        h = with(h, 1, 14, 0, 1, 0, 1, 36, 0, 0, 4, 8);
+        h = with(h, 1, 30, 2, 1, 2, 4, 36, 0, 1, 2, 5);
         h = with(h, 21);
         for (int place = 0; place < 36; place++) {
             h = with(h, place == 35 ? 1 : 0);
