@@ -86,7 +86,7 @@ public final class HomeNeedles {
             case 5: return fewestSteps(now.homes[needle]);
             case 6: return Long.bitCount(possibleHomes(needle));
             case 7: return leastPlace(possibleHomes(needle));
-            case 8: return bestLook(needle);
+            case 8: return bestLook(needle, possibleHomes(needle));
             default: return OUTSIDE;
         }
     }
@@ -266,7 +266,7 @@ public final class HomeNeedles {
     }
 
     private long withSea(long before) {
-        long h = with(before, bestLook(0));
+        long h = with(before, bestLook(0, possibleHomes(0)));
         for (int place = 0; place < PLACES; place++) {
             h = with(h, now.isIsland(place) ? 1 : 0);
         }
@@ -304,11 +304,7 @@ public final class HomeNeedles {
     }
 
     private static int nearer(int from, int to) {
-        return Math.max(-1, Math.min(1, to - from));
-    }
-
-    private static int direction(int rows, int columns) {
-        return 3 * (1 + rows) + 1 + columns;
+        return to > from ? 1 : to < from ? -1 : 0;
     }
 
     private int needlesDownAt(int place) {
@@ -400,8 +396,7 @@ public final class HomeNeedles {
         return NONE;
     }
 
-    private int bestLook(int number) {
-        long homes = possibleHomes(number);
+    private int bestLook(int number, long homes) {
         if (homes == 0) {
             return NONE;
         }
@@ -467,7 +462,7 @@ public final class HomeNeedles {
 
         /** The direction in which it points where home is that way: by -1, 0 or 1 each. */
         int turn(int rows, int columns) {
-            return direction(rows, columns);
+            return DOWN + 3 * rows + columns;
         }
     }
 
@@ -477,7 +472,7 @@ public final class HomeNeedles {
         }
 
         int turn(int rows, int columns) {
-            return direction(-rows, -columns);
+            return DOWN - 3 * rows - columns;
         }
     }
 
@@ -487,7 +482,7 @@ public final class HomeNeedles {
         }
 
         int turn(int rows, int columns) {
-            return columns != 0 ? direction(0, columns) : direction(rows, 0);
+            return columns != 0 ? DOWN + columns : DOWN + 3 * rows;
         }
     }
 
@@ -497,7 +492,7 @@ public final class HomeNeedles {
         }
 
         int turn(int rows, int columns) {
-            return direction(columns, -rows);
+            return DOWN + 3 * columns - rows;
         }
     }
 
@@ -507,7 +502,7 @@ public final class HomeNeedles {
         }
 
         int turn(int rows, int columns) {
-            return rows != 0 ? direction(rows, 0) : direction(0, columns);
+            return rows != 0 ? DOWN + 3 * rows : DOWN + columns;
         }
     }
 
