@@ -1,76 +1,9 @@
 /** Each promise of the document, with answers that were worked out by hand from its words. */
-public final class PromisesTest {
-    private static final int NONE = -1, UNKNOWN = -101, OUTSIDE = -102, STATE = -103, FULL = -104;
-    private static final int MIN = Integer.MIN_VALUE, MAX = Integer.MAX_VALUE;
+public final class PromisesTest extends Checks {
     private static final String ALL_KINDS_BUT_SLOW = "n22,s22,l22,t22;00";
-    private static int wrong = 0;
 
     public static void main(String[] args) {
-        promise1NewObject();
-        promise2Letter();
-        promise3Blank();
-        promise4Fault();
-        promise5Sea();
-        promise5SeaIsNone();
-        promise5AnotherSea();
-        promise6NeedleFacts();
-        promise6NeedleFollowed();
-        promise6NeedleFew();
-        promise6NeedleHomesAndLook();
-        promise6NeedleHomesByKind();
-        promise6NeedleRefuses();
-        promise7As();
-        promise8Points();
-        promise9Swing();
-        promise10Island();
-        promise11Raise();
-        promise12Step();
-        promise13Follow();
-        promise14Homing();
-        promise15See();
-        promise16Forget();
-        promise17Storms();
-        promise18Image();
-        promise19Restore();
-        promise20Count();
-        promise21Digest();
-        System.exit(wrong == 0 ? 0 : 1);
-    }
-
-    // ---- tools
-
-    private static void due(String what, long got, long want) {
-        if (got != want) {
-            wrong++;
-            System.out.println(what + " answered " + got + ", due is " + want);
-        }
-    }
-
-    private static HomeNeedles withPage(String text) {
-        HomeNeedles x = new HomeNeedles();
-        write(x, text);
-        return x;
-    }
-
-    private static void write(HomeNeedles x, String text) {
-        for (int i = 0; i < text.length(); i++) {
-            due("letter " + i + " of " + text, x.letter(text.charAt(i)), x.count(7));
-        }
-    }
-
-    private static HomeNeedles withSea(String text) {
-        HomeNeedles x = withPage(text);
-        due("sea " + text, x.sea(), x.count(0));
-        due("a sea was read of " + text, x.count(8), 1);
-        return x;
-    }
-
-    private static long with(long h, long... numbers) {
-        long sum = h;
-        for (long number : numbers) {
-            sum = 31 * sum + number;
-        }
-        return sum;
+        runAll(PromisesTest.class);
     }
 
     /** A refusal is as told, and the digest before and behind it is the same. */
