@@ -22,6 +22,8 @@ public final class FaceTest {
             "int restore()", "int count(int)", "long digest()");
     private static final List<String> CONSTANTS = List.of(
             "NONE = -1", "UNKNOWN = -101", "OUTSIDE = -102", "STATE = -103", "FULL = -104");
+    private static final Set<Class<?>> CONSTANT_TYPES = Set.of(int.class, long.class, boolean.class, char.class,
+            String.class, int[].class, long[].class, char[].class, byte[].class);
     private static int wrong = 0;
 
     public static void main(String[] args) throws Exception {
@@ -29,6 +31,8 @@ public final class FaceTest {
         constantsAreTheDocuments();
         constructorIsTheDocuments();
         staticFieldsAreFinal();
+        methodsAndClassesStaySmall();
+        onlyTheListedLibraryIsImported();
         wordsThatAreRuledOutAreNotThere();
         System.exit(wrong == 0 ? 0 : 1);
     }
@@ -80,17 +84,44 @@ public final class FaceTest {
         due("constructor", all[0].toString(), "public HomeNeedles()");
     }
 
-    private static void staticFieldsAreFinal() {
+    private static List<Class<?>> allClasses() {
         List<Class<?>> classes = new ArrayList<>(Arrays.asList(HomeNeedles.class.getDeclaredClasses()));
-        for (Class<?> inside : classes) {
-            due(inside + " is static", Modifier.isStatic(inside.getModifiers()), true);
-        }
         classes.add(HomeNeedles.class);
-        due("at most twelve classes", classes.size() <= 12, true);
-        for (Class<?> each : classes) {
+        return classes;
+    }
+
+    private static void staticFieldsAreFinal() {
+        for (Class<?> each : allClasses()) {
+            due(each + " is static, if inside", each == HomeNeedles.class || Modifier.isStatic(each.getModifiers()), true);
             for (Field field : each.getDeclaredFields()) {
                 int modifiers = field.getModifiers();
                 due(field + " final if static", !Modifier.isStatic(modifiers) || Modifier.isFinal(modifiers), true);
+                due(field + " of a constant's type if static",
+                        !Modifier.isStatic(modifiers) || CONSTANT_TYPES.contains(field.getType()), true);
+            }
+        }
+    }
+
+    private static void methodsAndClassesStaySmall() {
+        due("at most twelve classes", allClasses().size() <= 12, true);
+        for (Class<?> each : allClasses()) {
+            long fields = Arrays.stream(each.getDeclaredFields())
+                    .filter(field -> !Modifier.isStatic(field.getModifiers())).count();
+            due(each + " has at most twenty fields", fields <= 20, true);
+            for (Method method : each.getDeclaredMethods()) {
+                due(method + " takes at most seven", method.getParameterCount() <= 7, true);
+                due(method + " is none of an object's own",
+                        List.of("equals", "hashCode", "toString").contains(method.getName()), false);
+            }
+        }
+    }
+
+    private static void onlyTheListedLibraryIsImported() throws Exception {
+        Set<String> listed = Set.of("java.util.Arrays", "java.util.ArrayList", "java.util.List", "java.util.Iterator");
+        for (String line : Files.readAllLines(Path.of("src/main/java/HomeNeedles.java"))) {
+            if (line.startsWith("import ")) {
+                String name = line.substring(7).replace(";", "").trim();
+                due("the import of " + name + " is listed", listed.contains(name), true);
             }
         }
     }
